@@ -24,7 +24,7 @@ public final class EveryMeasure {
     private static final int MOST_BEATERS = 3;
 
     /** 4 weights not below 0, 12 sayings and 7 leads at once: a cone of n rows has 2n - 4 corners at most. */
-    private static final int MOST_CORNERS = 48;
+    private static final int MOST_CORNERS = 44;
     private static final int MOST_ROWS = 31;
     /** The cone at the start and one behind each of the 12 sayings. */
     private static final int STACK = 13;
@@ -515,8 +515,8 @@ public final class EveryMeasure {
         }
 
         static long commonDivisor(long a, long b) {
-            long greater = Math.abs(a);
-            long lesser = Math.abs(b);
+            long greater = a < 0 ? -a : a;
+            long lesser = b < 0 ? -b : b;
             // Euclid's steps on longs end well before this bound.
             for (int i = 0; i < 200 && lesser != 0; i++) {
                 long rest = greater % lesser;
@@ -534,7 +534,6 @@ public final class EveryMeasure {
         int kind = END;
         int start = 0;
         int end = 0;
-        int number = 0;
 
         void put(long eight) {
             for (int shift = 56; shift >= 0; shift -= 8) {
@@ -552,40 +551,40 @@ public final class EveryMeasure {
             step();
         }
 
+        /** Words and numbers go on as long as their signs do; beyond their length they are none. */
         void step() {
             start = end;
             while (start < length && (signs[start] == 10 || signs[start] == 32)) {
                 start++;
             }
-            end = start;
-            if (start >= length) {
-                kind = END;
-            } else if (isLetter(signs[start])) {
-                takeWord();
-            } else if (isDigit(signs[start])) {
-                takeNumber();
-            } else {
-                kind = signs[start] == ';' ? SEMICOLON : STRANGE;
+            kind = start < length ? kindOf(signs[start]) : END;
+            end = Math.min(start + 1, length);
+            boolean goesOn = kind == WORD || kind == NUMBER;
+            while (goesOn && end < length && kindOf(signs[end]) == kind) {
                 end++;
+            }
+            if (goesOn && end - start > (kind == WORD ? MOST_LETTERS : MOST_DIGITS)) {
+                kind = STRANGE;
             }
         }
 
-        private void takeWord() {
-            while (end < length && isLetter(signs[end])) {
-                end++;
+        /** What the token tells if it is a number. */
+        int number() {
+            int number = 0;
+            for (int i = start; i < end && kind == NUMBER; i++) {
+                number = number * 10 + signs[i] - '0';
             }
-            kind = end - start <= MOST_LETTERS ? WORD : STRANGE;
+            return number;
         }
 
-        private void takeNumber() {
-            number = 0;
-            while (end < length && isDigit(signs[end])) {
-                if (end - start < MOST_DIGITS) {
-                    number = number * 10 + signs[end] - '0';
-                }
-                end++;
+        private static int kindOf(int sign) {
+            if (sign >= 'a' && sign <= 'z') {
+                return WORD;
             }
-            kind = end - start <= MOST_DIGITS ? NUMBER : STRANGE;
+            if (sign >= '0' && sign <= '9') {
+                return NUMBER;
+            }
+            return sign == ';' ? SEMICOLON : STRANGE;
         }
 
         boolean says(String word) {
@@ -607,14 +606,6 @@ public final class EveryMeasure {
             }
             int person = signs[start] - 'a';
             return person < MOST_PERSONS ? person : NONE;
-        }
-
-        private static boolean isLetter(int sign) {
-            return sign >= 'a' && sign <= 'z';
-        }
-
-        private static boolean isDigit(int sign) {
-            return sign >= '0' && sign <= '9';
         }
     }
 
@@ -792,8 +783,8 @@ public final class EveryMeasure {
         }
 
         private int takeFreshMeasure(int[] told) {
-            boolean known = fault == 0 && tape.kind == NUMBER && tape.number < measures;
-            if (known && told[tape.number] != NONE) {
+            int number = tape.number();
+            if (fault == 0 && tape.kind == NUMBER && number < measures && told[number] != NONE) {
                 wrong(FAULT_AGAIN);
             }
             return takeNumber(0, measures - 1, NONE);
@@ -804,7 +795,7 @@ public final class EveryMeasure {
             if (fault != 0) {
                 return NONE;
             }
-            int number = tape.number;
+            int number = tape.number();
             if (tape.kind != NUMBER) {
                 wrong(FAULT_STRANGE);
             } else if (number < low || number > high) {
@@ -1209,7 +1200,7 @@ public final class EveryMeasure {
     private static final class Crowd {
         private final Weights weights;
         private final Judge judge;
-        private Choice choice = new Choice();
+        private final int[] sayings = new int[MOST_PERSONS];
         private int pool = 0;
         private boolean mustSettle = false;
         private int kept = NONE;
@@ -1219,52 +1210,57 @@ public final class EveryMeasure {
             this.judge = judge;
         }
 
-        int mostThatAgree(Choice newChoice) {
-            prepare(newChoice, ALL_PERSONS, false);
+        int mostThatAgree(Choice choice) {
+            prepare(choice, ALL_PERSONS, false);
             ask(MOST_PERSONS - 1, 0, 0);
             return kept;
         }
 
         /** The fewest of the voices without whom the others leave one thing surely best. */
-        int fewestThatYield(Choice newChoice, int voices) {
-            prepare(newChoice, voices, true);
+        int fewestThatYield(Choice choice, int voices) {
+            prepare(choice, voices, true);
             ask(MOST_PERSONS - 1, 0, 0);
             return kept == NONE ? NONE : voices & ~kept;
         }
 
-        private void prepare(Choice newChoice, int newPool, boolean newMustSettle) {
-            choice = newChoice;
+        private void prepare(Choice choice, int newPool, boolean newMustSettle) {
+            for (int p = 0; p < MOST_PERSONS; p++) {
+                sayings[p] = choice.sayingsOf(newPool & 1 << p);
+            }
             pool = newPool;
             mustSettle = newMustSettle;
             kept = NONE;
             weights.stack[0].become(weights.whole);
         }
 
-        private void ask(int person, int depth, int keeping) {
+        /**
+         * Goes through who is kept, from a person down to the first one; whether all of these can be.
+         * If they can, leaving one of them out keeps fewer and makes nothing surer.
+         */
+        private boolean ask(int person, int depth, int keeping) {
             int open = pool & (1 << person + 1) - 1;
             if (kept != NONE && Integer.bitCount(keeping | open) < Integer.bitCount(kept)) {
-                return;
+                return false;
             }
             if (person < 0) {
                 settle(depth, keeping);
-                return;
+                return true;
             }
             int bit = pool & 1 << person;
-            int deeper = hear(choice.sayingsOf(bit), depth);
-            if (weights.stack[deeper].corners > 0) {
-                ask(person - 1, deeper, keeping | bit);
-            }
+            int deeper = hear(sayings[person], depth);
+            boolean all = weights.stack[deeper].corners > 0 && ask(person - 1, deeper, keeping | bit);
             // Who says nothing is never left out.
-            if (deeper != depth) {
+            if (!all && deeper != depth) {
                 ask(person - 1, depth, keeping);
             }
+            return all;
         }
 
         /** Cuts by some sayings more; the depth at which that ends. */
-        private int hear(int sayings, int depth) {
+        private int hear(int set, int depth) {
             int deeper = depth;
             for (int s = 0; s < MOST_SAYINGS; s++) {
-                if ((sayings & 1 << s) != 0 && deeper + 1 < STACK) {
+                if ((set & 1 << s) != 0 && deeper + 1 < STACK) {
                     weights.stack[deeper + 1].becomeCut(weights.stack[deeper], weights.rows[s]);
                     deeper++;
                 }
