@@ -71,7 +71,7 @@ public final class EveryMeasure {
         things = new Things();
         weights = new Weights();
         judge = new Judge(things, weights);
-        picker = new Picker(weights.stack);
+        picker = new Picker(weights);
         crowd = new Crowd(weights, judge);
         span = new Span();
         fraction = new Fraction();
@@ -829,6 +829,7 @@ public final class EveryMeasure {
     private static final class Things {
         final int[][] figures = new int[MOST_THINGS][MOST_MEASURES];
         final int[][] values = new int[MOST_THINGS][MOST_MEASURES];
+        private final long[] scores = new long[MOST_THINGS];
         int told = 0;
         int in = 0;
 
@@ -873,27 +874,28 @@ public final class EveryMeasure {
 
         /** Those of a set that have its greatest value by a measure. */
         int topOf(int set, int measure) {
-            int top = 0;
-            int greatest = NONE;
             for (int t = 0; t < MOST_THINGS; t++) {
-                if ((set & 1 << t) != 0) {
-                    int value = values[t][measure];
-                    top = value > greatest ? 1 << t : value == greatest ? top | 1 << t : top;
-                    greatest = Math.max(greatest, value);
-                }
+                scores[t] = values[t][measure];
             }
-            return top;
+            return greatestOf(set, scores);
         }
 
         /** Those in whose least value is the greatest. */
         int bestAtWorst(int measures) {
-            int top = 0;
-            int greatest = NONE;
             for (int t = 0; t < MOST_THINGS; t++) {
-                if (isIn(t)) {
-                    int value = leastValue(t, measures);
-                    top = value > greatest ? 1 << t : value == greatest ? top | 1 << t : top;
-                    greatest = Math.max(greatest, value);
+                scores[t] = leastValue(t, measures);
+            }
+            return greatestOf(in, scores);
+        }
+
+        /** Those of a set that have its greatest score; scores are 0 or more. */
+        static int greatestOf(int set, long[] scores) {
+            int top = 0;
+            long greatest = NONE;
+            for (int t = 0; t < MOST_THINGS; t++) {
+                if ((set & 1 << t) != 0 && scores[t] >= greatest) {
+                    top = scores[t] > greatest ? 1 << t : top | 1 << t;
+                    greatest = scores[t];
                 }
             }
             return top;
@@ -1146,11 +1148,12 @@ public final class EveryMeasure {
     /** Looks for the fewest of some rows with which a cone keeps a goal, the first ones in order. */
     private static final class Picker {
         private final Cone[] stack;
-        private int[][] rows = new int[0][0];
+        private int[][] rows;
         private int usable = 0;
 
-        Picker(Cone[] stack) {
-            this.stack = stack;
+        Picker(Weights weights) {
+            stack = weights.stack;
+            rows = weights.rows;
         }
 
         void among(int[][] newRows, int newUsable) {
@@ -1411,15 +1414,7 @@ public final class EveryMeasure {
         /** Those in, as bits, than which none is better by the weights of a corner. */
         private int bestByCorner(Cone cone, int corner) {
             fillGoods(cone, corner);
-            int top = 0;
-            long greatest = NONE;
-            for (int t = 0; t < MOST_THINGS; t++) {
-                if (things.isIn(t)) {
-                    top = goods[t] > greatest ? 1 << t : goods[t] == greatest ? top | 1 << t : top;
-                    greatest = Math.max(greatest, goods[t]);
-                }
-            }
-            return top;
+            return Things.greatestOf(things.in, goods);
         }
 
         int surelyBest(Cone cone) {

@@ -49,6 +49,8 @@ public final class ChoiceTest {
         fault("ab more 0 1;", 1, 0);
         fault("more 0 1;", 1, 0);
         fault("A more 0 1;", 1, 0);
+        fault("az more 0 1;", 1, 0);
+        fault("a~ more 0 1;", 1, 1);
         fault("a", 1, 1);
         fault("a  \n", 1, 4);
         fault("a more", 1, 6);
@@ -147,6 +149,10 @@ public final class ChoiceTest {
     private static void otherMeasures() {
         x.measures(4);
         fine("a more 0 3; less 3;", 1);
+        fault("less 4;", 4, 5);
+        fault("cap 4 1;", 4, 4);
+        fault("must 4 1;", 4, 5);
+        fault("a more 4 4;", 4, 7);
         Due.feed(x, "a more 0 1;");
         x.measures(1);
         Due.is("read by the measures of now", 4 + 16 * 9, x.choice());
