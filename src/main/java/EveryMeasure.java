@@ -1614,7 +1614,7 @@ public final class EveryMeasure {
                 return NONE;
             }
             int low = 0;
-            while (low < enough) {
+            for (int i = 0; i <= TOP && low < enough; i++) {
                 int middle = (low + enough) / 2;
                 if (whereBest(thing, measure, middle).corners > 0) {
                     enough = middle;
