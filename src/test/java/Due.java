@@ -4,6 +4,8 @@ import java.util.NoSuchElementException;
 final class Due {
     private static int checked = 0;
     private static int wrong = 0;
+    /** What is asked at the moment, told with each wrong answer. */
+    private static String sentence = "";
 
     private Due() { }
 
@@ -11,11 +13,19 @@ final class Due {
         long answer();
     }
 
+    static void sentence(String asked) {
+        sentence = asked + ": ";
+    }
+
+    static int checked() {
+        return checked;
+    }
+
     static void is(String call, long want, long got) {
         checked++;
         if (got != want) {
             wrong++;
-            System.out.println(call + " answered " + got + ", due is " + want);
+            System.out.println(sentence + call + " answered " + got + ", due is " + want);
         }
     }
 
@@ -28,7 +38,7 @@ final class Due {
         try {
             long got = made.answer();
             wrong++;
-            System.out.println(call + " answered " + got + ", due is NoSuchElementException");
+            System.out.println(sentence + call + " answered " + got + ", due is NoSuchElementException");
         } catch (NoSuchElementException due) {
             // as it should be
         }
