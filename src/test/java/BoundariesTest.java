@@ -30,10 +30,10 @@ public final class BoundariesTest {
             }
         }
         Due.sentence("all sentences");
-        for (int part = Sentences.WHAT_IT_IS; part <= Sentences.PROMISES; part++) {
+        for (int part = Sentences.NOT_PROMISED; part <= Sentences.PROMISES; part++) {
             Due.is(Sentences.nameOf(part) + " has a test", true, parts.contains(part));
-            // 'What it is' begins with a summary of all the rest; only its last sentence promises something itself.
-            String left = part == Sentences.WHAT_IT_IS ? "" : sentences.leftOut(part);
+            // 'What it is' begins with a summary of all the rest, and 'Not promised' tells mostly what is free.
+            String left = part < Sentences.TERMS ? "" : sentences.leftOut(part);
             Due.is("words of " + Sentences.nameOf(part) + " that no test quotes: " + left, 0, left.length());
         }
         System.out.println(tests + " sentences");

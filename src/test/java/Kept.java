@@ -97,73 +97,113 @@ final class Kept {
         }
     }
 
-    /** Some 330 calls: all that can be asked, then calls that bring to light what is kept but can't be asked. */
+    /** Some 300 calls: all that can be asked, then calls that bring to light what is kept but can't be asked. */
     private static List<Long> exam(EveryMeasure x) {
         List<Long> answers = new ArrayList<>();
-        askStanding(x, answers);
-        askWeights(x, answers);
-        askJudgements(x, answers);
+        for (Ask ask : asks()) answers.add(answer(x, ask));
         x.voices(255);
         for (int what = 3; what < 8; what++) answers.add((long) x.count(what));
         for (int thing = 5; thing < 8; thing++) answers.add(x.row(thing) ? 1L : 0L);
         answers.add((long) x.judged(0));
         answers.add((long) x.feed(';', ' ', 0));
         answers.add((long) x.choice());
-        askStanding(x, answers);
+        for (Ask ask : asksOfStanding()) answers.add(answer(x, ask));
         for (int thing = 0; thing < 8; thing++) x.thing(thing, 40, 30, 20, 10);
         answers.add((long) x.judged(0));
         answers.add((long) x.judged(1));
-        askStanding(x, answers);
+        for (Ask ask : asksOfStanding()) answers.add(answer(x, ask));
         return answers;
     }
 
-    private static void askStanding(EveryMeasure x, List<Long> answers) {
-        for (int what = 0; what < 8; what++) answers.add((long) x.count(what));
+    /** Whether each ask has the same answer whatever was asked ahead of it. */
+    static void asksChangeNothing(String state, Maker maker) {
+        List<Ask> asks = asks();
+        EveryMeasure there = maker.make();
+        EveryMeasure back = maker.make();
+        long[] fresh = new long[asks.size()];
+        int differ = 0;
+        for (int i = 0; i < fresh.length; i++) fresh[i] = answer(maker.make(), asks.get(i));
+        for (int i = 0; i < fresh.length; i++) if (answer(there, asks.get(i)) != fresh[i]) differ++;
+        for (int i = fresh.length - 1; i >= 0; i--) if (answer(back, asks.get(i)) != fresh[i]) differ++;
+        Due.is(state + ": answers that other asks changed", 0, differ);
+        same(state + ", all asks", there, maker.make());
+    }
+
+    private static List<Ask> asks() {
+        List<Ask> asks = asksOfStanding();
+        asks.addAll(asksOfWeights());
+        asks.addAll(asksOfThings());
+        asks.addAll(asksOfAll());
+        return asks;
+    }
+
+    private static List<Ask> asksOfStanding() {
+        List<Ask> asks = new ArrayList<>();
+        for (int w = 0; w < 8; w++) {
+            int what = w;
+            asks.add(x -> x.count(what));
+        }
         for (int t = 0; t < 8; t++) {
             int thing = t;
-            answers.add((long) x.standing(t));
+            asks.add(x -> x.standing(thing));
             for (int m = 0; m < 4; m++) {
                 int measure = m;
-                answers.add(answer(x, y -> y.value(thing, measure)));
+                asks.add(x -> x.value(thing, measure));
             }
         }
+        return asks;
     }
 
-    private static void askWeights(EveryMeasure x, List<Long> answers) {
-        int[][] some = {{1, 0, 0, 0}, {0, 1, 0, 0}, {0, 0, 1, 0}, {5, 3, 2, 1}, {4, 4, 1, 1}, {2, 3, 4, 5}};
-        for (int[] w : some) answers.add((long) x.fits(w[0], w[1], w[2], w[3]));
-        for (int c = 0; c < 6; c++) {
-            for (int m = 0; m < 4; m++) answers.add(x.corner(c, m));
+    private static List<Ask> asksOfWeights() {
+        List<Ask> asks = new ArrayList<>();
+        for (int[] w : new int[][] {{1, 0, 0, 0}, {0, 1, 0, 0}, {0, 0, 1, 0}, {5, 3, 2, 1}, {4, 4, 1, 1}, {2, 3, 4, 5}}) {
+            asks.add(x -> x.fits(w[0], w[1], w[2], w[3]));
         }
-        answers.add((long) x.small(1));
-        answers.add((long) x.share(EveryMeasure.NONE, 9));
-        answers.add((long) x.agree(1));
-        answers.add((long) x.yields(1));
+        for (int c = 0; c < 24; c++) {
+            int corner = c;
+            asks.add(x -> x.corner(corner / 4, corner % 4));
+        }
+        return asks;
     }
 
-    private static void askJudgements(EveryMeasure x, List<Long> answers) {
+    private static List<Ask> asksOfThings() {
+        List<Ask> asks = new ArrayList<>();
         for (int t = 0; t < 8; t++) {
-            int other = (t + 1) % 3;
             int thing = t;
-            answers.add((long) x.better(t, other));
-            answers.add(answer(x, y -> y.gap(thing, other, 0)));
-            answers.add(x.regret(t, 0));
-            answers.add((long) x.need(t, 1, true));
+            int other = (t + 1) % 3;
+            asks.add(x -> x.better(thing, other));
+            asks.add(x -> x.gap(thing, other, 0));
+            asks.add(x -> x.regret(thing, 0));
+            asks.add(x -> x.beaten(thing));
+            asks.add(x -> x.need(thing, 1, true));
+            asks.add(x -> x.need(thing, 0, false));
+            asks.add(x -> x.why(thing, other, 1));
+            asks.add(x -> x.holds(thing, 0, 1));
+            asks.add(x -> x.edge(thing, other, 0));
         }
-        answers.add((long) x.good(0, 1, 2, 3, 4, 0));
-        answers.add((long) x.beaten(4));
-        answers.add((long) x.why(0, 1, 1));
-        answers.add((long) x.holds(0, 0, 1));
-        answers.add((long) x.edge(0, 1, 0));
-        answers.add((long) x.best(0));
-        answers.add((long) x.best(1));
-        answers.add((long) x.least());
-        answers.add((long) x.next(2));
-        answers.add((long) x.few());
-        answers.add((long) x.judged(0));
-        answers.add((long) x.judged(1));
-        answers.add((long) x.worst());
-        answers.add((long) x.first(12));
-        answers.add((long) x.many(40));
+        return asks;
+    }
+
+    private static List<Ask> asksOfAll() {
+        List<Ask> asks = new ArrayList<>();
+        asks.add(x -> x.good(0, 1, 2, 3, 4, 0));
+        asks.add(x -> x.share(EveryMeasure.NONE, 9));
+        asks.add(x -> x.share(1, 9));
+        for (int w = 0; w < 2; w++) {
+            int what = w;
+            asks.add(x -> x.small(what));
+            asks.add(x -> x.best(what));
+            asks.add(x -> x.next(what));
+            asks.add(x -> x.agree(what));
+            asks.add(x -> x.yields(what));
+            asks.add(x -> x.judged(what));
+        }
+        asks.add(x -> x.next(2));
+        asks.add(x -> x.least());
+        asks.add(x -> x.few());
+        asks.add(x -> x.worst());
+        asks.add(x -> x.first(12));
+        asks.add(x -> x.many(40));
+        return asks;
     }
 }

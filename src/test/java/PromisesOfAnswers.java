@@ -134,6 +134,17 @@ final class PromisesOfAnswers {
         x.thing(2, 80, 20, 0, 0);
         Due.is("0 / 1", 0, x.gap(0, 2, 0));
         Due.is("0 / 1", 1, x.gap(0, 2, 1));
+        // By 1 to 3: 6 / 4, 2 / 4 and 4 / 4 above or below.
+        x = Due.with(2, new int[][] {{10, 12}, {10, 10}, {12, 10}, {14, 10}}, "a step 3 0 1 1; a step 1 1 3 0;");
+        long[][] due = {{0, -3, -1, -1}, {3, 0, 1, 1}, {1, -1, 0, 1}, {1, -1, -1, 0}};
+        long[][] below = {{1, 2, 1, 2}, {2, 1, 2, 1}, {1, 2, 1, 2}, {2, 1, 2, 1}};
+        for (int a = 0; a < 4; a++) {
+            for (int b = 0; b < 4; b++) {
+                if (a == b) continue;
+                Due.is("gap(" + a + ", " + b + ", 0)", due[a][b], x.gap(a, b, 0));
+                Due.is("gap(" + a + ", " + b + ", 1)", below[a][b], x.gap(a, b, 1));
+            }
+        }
         // (1, 0, 0, 0) against (0, 0, 0, 1) by the one line of weights whose sum is 3940399.
         x = Due.with(4, new int[][] {{1, 0, 0, 0}, {0, 0, 0, 1}},
             "a step 99 0 100 1; a step 100 1 99 0; a step 99 1 100 2; a step 100 2 99 1; a step 99 2 100 3; a step 100 3 99 2;");

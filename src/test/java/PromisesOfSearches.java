@@ -567,6 +567,7 @@ final class PromisesOfSearches {
             int measures = k;
             int valid = 0;
             EveryMeasure x = Due.with(measures, new int[][] {{5, 5, 5, 5}}, "");
+            for (int order = -40; order < 0; order++) Due.is("first(" + order + ") of " + k, NONE, x.first(order));
             for (int order = 0; order <= 400; order++) if (x.first(order) != NONE) valid++;
             int[] due = {0, 1, 2, 6, 6};
             Due.is("orders up to 400 of " + k, due[k], valid);

@@ -7,7 +7,7 @@ import java.lang.annotation.Target;
 @Retention(RetentionPolicy.RUNTIME)
 @Target(ElementType.METHOD)
 @interface Says {
-    /** The promise's number; 0 is the part 'Terms', -1 the part 'What it is'. */
+    /** The promise's number; 0 is the part 'Terms', -1 the part 'What it is', -2 'Not promised'. */
     int promise();
 
     String[] words();

@@ -6,6 +6,7 @@ import java.util.TreeMap;
 
 /** The document's parts, and which of their words some boundary test has quoted. */
 final class Sentences {
+    static final int NOT_PROMISED = -2;
     static final int WHAT_IT_IS = -1;
     static final int TERMS = 0;
     static final int PROMISES = 34;
@@ -20,7 +21,7 @@ final class Sentences {
             if (end < 0) continue;
             String heading = part.substring(0, end).trim();
             int number = numberOf(heading);
-            if (number < WHAT_IT_IS) continue;
+            if (number < NOT_PROMISED) continue;
             String text = part.substring(end + 1).replaceAll("```\\w*", " ");
             // The signature at the head of a promise is FaceTest's matter.
             if (number > 0) text = text.replaceFirst("`[^`]*`:", " ");
@@ -31,9 +32,10 @@ final class Sentences {
     }
 
     private static int numberOf(String heading) {
+        if (heading.equals("Not promised")) return NOT_PROMISED;
         if (heading.equals("What it is")) return WHAT_IT_IS;
         if (heading.equals("Terms")) return TERMS;
-        return heading.startsWith("Promise ") ? Integer.parseInt(heading.substring(8, heading.indexOf(':'))) : WHAT_IT_IS - 1;
+        return heading.startsWith("Promise ") ? Integer.parseInt(heading.substring(8, heading.indexOf(':'))) : NOT_PROMISED - 1;
     }
 
     private static String plain(String text) {
@@ -41,6 +43,7 @@ final class Sentences {
     }
 
     static String nameOf(int part) {
+        if (part == NOT_PROMISED) return "Not promised";
         return part == WHAT_IT_IS ? "What it is" : part == TERMS ? "Terms" : "Promise " + part;
     }
 

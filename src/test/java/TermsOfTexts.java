@@ -2,6 +2,7 @@
 final class TermsOfTexts {
     private static final int NONE = EveryMeasure.NONE;
     private static final int[][] NO_THINGS = {};
+    private static final int[][] FOUR = {{80, 20, 40, 10}, {30, 70, 50, 60}, {50, 50, 45, 30}, {10, 90, 20, 70}, {45, 45, 44, 40}};
     /** Each form that a choice may hold, with three measures. */
     private static final String[][] FORMS = {
         {"less", "2", ";"}, {"cap", "0", "5", ";"}, {"must", "1", "6", ";"}, {"a", "more", "0", "1", ";"}, {"b", "twice", "1", "2", ";"},
@@ -48,6 +49,40 @@ final class TermsOfTexts {
         Due.is("510 judged", 0, x.judged(0));
         Due.is("511 count", 2, x.count(7));
         Due.is("512 best", 1, x.best(1));
+    }
+
+    @Says(promise = -2, words = "Nothing is promised beyond the answers and state changes described above")
+    static void terms0_asksChangeNothing() {
+        Kept.asksChangeNothing("rich", Kept::rich);
+        Kept.asksChangeNothing("nothing fits", Kept::nothingFits);
+        Kept.asksChangeNothing("new", EveryMeasure::new);
+        Kept.asksChangeNothing("one voice against all others", () -> {
+            EveryMeasure x = Due.with(2, FOUR, "a most 0 40; b least 0 50; c least 0 60; d more 1 0; e twice 0 1;");
+            x.voices(1);
+            return x;
+        });
+        Kept.asksChangeNothing("four measures", () -> Due.with(4, FOUR, "a more 0 1; b twice 2 3; c better 0 1; d most 1 30; e least 3 5;"));
+    }
+
+    @Says(promise = -2, words = "Nothing is promised beyond the answers and state changes described above")
+    static void terms0_whatWasAheadLeavesNothing() {
+        String wide = "a most 0 50; a most 1 50; b most 2 50; c most 3 50; d least 0 1; e least 1 1; h better 0 1;";
+        String[] narrow = {"", "a more 0 1; b more 1 0;", "a most 0 40; b least 0 40; c more 1 2; d more 2 3;", "a twice 0 1; b twice 1 0; c most 2 0; d most 3 0;",
+            "g step 3 0 2 1; h step 2 1 3 0;", "less 1; cap 0 30; must 2 20;"};
+        for (String text : narrow) {
+            EveryMeasure x = Due.with(4, FOUR, "less 0; cap 1 1; must 2 99; " + wide);
+            x.voices(7);
+            Due.is("many corners ahead", true, x.count(6) > 5);
+            x.few();
+            Due.is("a fault between", 1, Due.read(x, "?"));
+            fine(x, text);
+            x.voices(255);
+            x.thing(6, 1, 2, 3, 4);
+            x.drop(6);
+            x.row(5);
+            x.row(NONE);
+            Kept.same("what was ahead of '" + text + "'", x, Due.with(4, FOUR, text));
+        }
     }
 
     @Says(promise = 0, words = "`NONE = -1`: None.")
@@ -309,14 +344,23 @@ final class TermsOfTexts {
                 fault(begun, 1, begun.length());
                 fault(begun + " ? ;", 1, begun.length() + 1);
                 fault(begun + " xyz ;", 1, begun.length() + 1);
-                boolean wantsNumber = Character.isDigit(form[i].charAt(0));
-                fault(begun + (wantsNumber ? " ;" : " 1 ;"), 1, begun.length() + 1);
+                if (!form[i].equals(";")) fault(begun + " ;", 1, begun.length() + 1);
+                if (!Character.isDigit(form[i].charAt(0))) fault(begun + " 1 ;", 1, begun.length() + 1);
             }
         }
         fault("a less 0;", 1, 2);
         fault("a cap 0 1;", 1, 2);
         fault("a must 0 1;", 1, 2);
         fault("more 0 1;", 1, 0);
+        for (String word : new String[] {"less", "cap", "must", "more", "twice", "step", "least", "most", "better"}) {
+            boolean first = word.equals("less") || word.equals("cap") || word.equals("must");
+            for (int i = 0; i < word.length(); i++) {
+                String other = word.substring(0, i) + "x" + word.substring(i + 1);
+                fault((first ? "" : "a ") + other + " 0 1 ;", 1, first ? 0 : 2);
+                String shorter = word.substring(0, i) + word.substring(i + 1);
+                fault((first ? "" : "a ") + shorter + " 0 1 ;", 1, first ? 0 : 2);
+            }
+        }
     }
 
     @Says(promise = 0, words = "M: a MEASURE (0 to k - 1).")

@@ -28,6 +28,8 @@ final class TermsOfWeights {
     @Says(promise = 0, words = "==== 3. CORNERS are those WEIGHTS that FIT, as whole numbers without a common divisor")
     static void terms3_cornersWithoutACommonDivisor() {
         corners(Due.with(2, NO_THINGS, "a step 100 0 75 1;"), at(1, 0), at(3, 4));
+        corners(Due.with(2, NO_THINGS, "a step 4 0 2 1;"), at(1, 0), at(1, 2));
+        corners(Due.with(2, NO_THINGS, "a step 9 0 6 1;"), at(1, 0), at(2, 3));
         corners(Due.with(2, NO_THINGS, "a step 99 0 98 1; a step 99 1 100 0;"), at(98, 99), at(99, 100));
         corners(Due.with(2, NO_THINGS, "a step 100 0 100 1; b most 0 50;"), at(1, 1));
         corners(Due.with(1, NO_THINGS, ""), at(1));
@@ -44,8 +46,43 @@ final class TermsOfWeights {
         corners(Due.with(3, NO_THINGS, "a most 0 100; b least 1 0; c step 1 0 1 1;"), at(0, 0, 1), at(1, 0, 0), at(1, 1, 0));
         corners(Due.with(4, NO_THINGS, EVEN), at(0, 0, 0, 1), at(0, 0, 1, 0), at(1, 1, 0, 0));
         corners(Due.with(3, NO_THINGS, "a most 0 0; b most 1 0;"), at(0, 0, 1));
+        // Flat ones, and rows told twice: two corners may lie on two rows in common and yet span no edge.
+        corners(Due.with(4, NO_THINGS, EVEN + "a most 2 50; a twice 2 1;"), at(0, 0, 0, 1), at(0, 0, 1, 1), at(1, 1, 2, 0));
+        corners(Due.with(4, NO_THINGS, "a more 3 0; a most 1 50; a more 3 0; a most 3 20; a least 0 20;"), at(1, 0, 3, 1), at(2, 5, 1, 2));
         corners(Due.with(4, NO_THINGS, "a most 0 50; b most 1 50; c most 2 50; d most 3 50;"),
             at(0, 0, 1, 1), at(0, 1, 0, 1), at(0, 1, 1, 0), at(1, 0, 0, 1), at(1, 0, 1, 0), at(1, 1, 0, 0));
+    }
+
+    /** 12 sayings and the 4 weights that are not below 0 leave 28 corners at the most (2 * 16 - 4): as PlainMeasure tells them. */
+    @Says(promise = 0, words = "CORNERS are those WEIGHTS that FIT")
+    static void terms3_theMostCorners() {
+        int[][] figures = {{71, 27, 93, 31}, {3, 4, 58, 89}, {2, 28, 53, 20}, {56, 3, 45, 72}, {69, 85, 97, 9}, {46, 7, 99, 23}, {29, 96, 46, 85}, {94, 80, 60, 100}};
+        String text = "a better 3 2;a most 3 41;a better 0 5;a better 4 1;a most 1 56;a most 0 55;a better 6 1;a most 2 66;a better 7 5;a better 7 6;a better 4 3;a better 0 1;";
+        EveryMeasure x = Due.with(4, figures, text);
+        PlainMeasure plain = plain(figures, text);
+        Due.is("corners", 28, x.count(6));
+        for (int c = 0; c <= 28; c++) {
+            for (int m = 0; m < 4; m++) Due.is("corner(" + c + ", " + m + ")", plain.corner(c, m), x.corner(c, m));
+        }
+        Due.is("best", plain.best(0), x.best(0));
+        Due.is("next", plain.next(2), x.next(2));
+        Due.is("few", plain.few(), x.few());
+        for (int t = 0; t < 8; t++) {
+            Due.is("need of " + t, plain.need(t, 2, false), x.need(t, 2, false));
+            Due.is("beaten " + t, plain.beaten(t), x.beaten(t));
+            Due.is("share of " + t, plain.share(t, 20), x.share(t, 20));
+            Due.is("row", true, x.row((t + 4) % 8) && plain.row((t + 4) % 8));
+            Due.is("judged", plain.judged(1), x.judged(1));
+        }
+    }
+
+    private static PlainMeasure plain(int[][] figures, String text) {
+        PlainMeasure plain = new PlainMeasure();
+        plain.measures(4);
+        for (int t = 0; t < figures.length; t++) plain.thing(t, figures[t][0], figures[t][1], figures[t][2], figures[t][3]);
+        for (int i = 0; i < text.length(); i++) plain.feed(text.charAt(i), 0, 0);
+        Due.is("plainly", 0, plain.choice());
+        return plain;
     }
 
     @Says(promise = 0, words = "numbered in order, by WEIGHT 0, then 1, and so on, the least first.")
@@ -176,6 +213,10 @@ final class TermsOfWeights {
         Due.is("in the midst of all", 31, x.best(0));
         x.thing(4, 25, 25, 25, 24);
         Due.is("nowhere", 15, x.best(0));
+        x = Due.with(2, new int[][] {{50, 50}, {80, 20}, {20, 80}}, "");
+        Due.is("the first one, between the corners alone", 7, x.best(0));
+        x.thing(0, 50, 49, 0, 0);
+        Due.is("nowhere", 6, x.best(0));
     }
 
     @Says(promise = 0, words = "it is SURELY BEST if by all.")
@@ -219,6 +260,13 @@ final class TermsOfWeights {
         Due.is("60, 60, 60: the first", 0, x.least());
         Due.read(x, "must 0 11;");
         Due.is("0 is out: the first of two", 3, x.least());
+        x = Due.with(2, new int[][] {{13, 14}, {12, 12}, {20, 10}, {10, 20}}, "a step 3 0 1 1; b step 3 1 1 0;");
+        // At 3 to 1 and 1 to 3: 53 / 4, 12, 70 / 4, 50 / 4 and 55 / 4, 12, 50 / 4, 70 / 4.
+        Due.is("17 / 4", 17, x.regret(0, 0));
+        Due.is("17 / 4", 4, x.regret(0, 1));
+        Due.is("11 / 2", 11, x.regret(1, 0));
+        Due.is("5", 5, x.regret(2, 0));
+        Due.is("17 / 4 are less than 5", 0, x.least());
     }
 
     @Says(promise = 0, words = "One that MAY not BE BEST is BEATEN by a set of others if by all WEIGHTS that FIT one of them is GOOD above it:")
@@ -304,6 +352,9 @@ final class TermsOfWeights {
         Due.is("of equal ones the first: a", 1, x.next(0));
         Due.is("of equal ones the first: b", 2, x.next(1));
         Due.is("the greater count", 3, x.next(2));
+        EveryMeasure one = Due.with(1, new int[][] {{5}, {6}, {7}}, "");
+        Due.is("never more than one may be best", 1, one.next(2));
+        Due.is("the first question", 0, one.next(0));
         x.drop(0);
         Due.is("the first of all that are equal", 1, x.next(0));
         Due.is("the first of all that are equal", 2, x.next(1));
@@ -346,6 +397,13 @@ final class TermsOfWeights {
         Due.is("one is surely best", 0, x.few());
         Due.read(x, "must 0 93;");
         Due.is("none is in", NONE, x.few());
+        // In turn 2, 0, 1, 3: only 0 and 1 are as good as one another where two stand on either side.
+        x = Due.with(2, new int[][] {{92, 38}, {38, 92}, {100, 0}, {0, 96}}, "");
+        Due.is("about 0 and 1 first, then by the answer", 2, x.few());
+        x = Due.with(2, new int[][] {{70, 70}, {100, 0}, {0, 100}}, "");
+        Due.is("the first one between the others", 2, x.few());
+        x.thing(0, 50, 50, 0, 0);
+        Due.is("where they are as good", 1, x.few());
     }
 
     @Says(promise = 0, words = "(or nothing FITS).")
@@ -421,6 +479,40 @@ final class TermsOfWeights {
         Due.is("what is out is not asked of", NONE, x.share(0, 20));
         Due.read(x, "a more 1 0; must 0 40;");
         Due.is("what is out bars nobody: 45 against up to 50", 9, x.share(2, 20));
+        int[][] things = {{60, 20, 40, 10}, {30, 70, 20, 50}, {20, 30, 70, 40}, {45, 45, 40, 30}};
+        for (String text : new String[] {"a more 0 1;", "a more 1 0;", "a more 2 0;", "a more 0 2;", "a more 1 2; b least 0 20;", "a twice 1 2; b most 1 60;",
+            "a step 3 2 2 1;", "a least 1 30; b most 2 40;", "a better 0 1; b better 1 2;", "a better 3 0; b most 1 50; c least 2 10;"}) {
+            for (int n : new int[] {1, 4, 6}) {
+                counted(3, things, text, n);
+                counted(4, things, text, n);
+                counted(4, things, text + " c more 3 0;", n);
+            }
+        }
+    }
+
+    /** Shares are what one finds by going through all weights. */
+    private static void counted(int measures, int[][] things, String text, int n) {
+        EveryMeasure x = Due.with(measures, things, text);
+        int fit = 0;
+        int[] best = new int[things.length];
+        for (int a = 0; a <= n; a++) {
+            for (int b = 0; b <= n - a; b++) {
+                for (int c = measures == 3 ? n - a - b : 0; c <= n - a - b; c++) {
+                    if (x.fits(a, b, c, n - a - b - c) == 0) continue;
+                    fit++;
+                    int[] good = new int[things.length];
+                    int greatest = 0;
+                    for (int t = 0; t < things.length; t++) {
+                        int last = measures == 4 ? things[t][3] : 0;
+                        good[t] = a * things[t][0] + b * things[t][1] + c * things[t][2] + (n - a - b - c) * last;
+                        greatest = Math.max(greatest, good[t]);
+                    }
+                    for (int t = 0; t < things.length; t++) if (good[t] == greatest) best[t]++;
+                }
+            }
+        }
+        Due.is("those of " + n + " that fit '" + text + "'", fit, x.share(NONE, n));
+        for (int t = 0; t < things.length; t++) Due.is("those of " + n + " by which " + t + " is best, '" + text + "'", best[t], x.share(t, n));
     }
 
     @Says(promise = 0, words = {"WHY a is BETTER than b by all: the least set of SAYINGS that count (0 to 3) by which it is, without all the others",
@@ -631,5 +723,9 @@ final class TermsOfWeights {
         Due.is("not by all 76", 3, x.many(76));
         Due.read(x, "a least 1 75; must 0 41;");
         Due.is("of those in", 1, x.many(75));
+        Due.read(x, "");
+        Due.is("by all weights none", 3, x.many(1));
+        Due.read(x, "a most 0 0;");
+        Due.is("by the one that fits 1 has all", 2, x.many(100));
     }
 }
