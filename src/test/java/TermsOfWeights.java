@@ -597,6 +597,10 @@ final class TermsOfWeights {
         Due.read(x, all.substring(0, all.length() - 13) + "h more 0 1;");
         Due.is("h alone", 1, x.agree(0));
         Due.is("h alone", 128, x.agree(1));
+        Due.read(x, "a most 0 50;".repeat(11) + "a least 0 50;");
+        Due.is("the twelfth saying is heard, and fits", 255, x.agree(1));
+        Due.read(x, "a most 0 50;".repeat(11) + "a least 0 51;");
+        Due.is("the twelfth saying is heard, and does not", 254, x.agree(1));
     }
 
     @Says(promise = 0, words = {"GIVE WAY: the fewest PERSONS of the VOICES without whom something FITS and a THING is SURELY BEST;",
@@ -623,6 +627,10 @@ final class TermsOfWeights {
         Due.read(x, "b more 0 1; b more 1 0;");
         x.voices(255);
         Due.is("both are surely best", 0, x.yields(1));
+        Due.read(x, "a most 0 100;".repeat(11) + "a more 0 1;");
+        Due.is("the twelfth saying is heard, and settles it", 0, x.yields(1));
+        Due.read(x, "a more 0 1;".repeat(11) + "a twice 1 0;");
+        Due.is("the twelfth saying is heard, and nothing is left", NONE, x.yields(1));
     }
 
     @Says(promise = 0, words = {"ROW: THINGS told by hand in order (8 at most, each once).", "It FITS if by some WEIGHTS that FIT each is GOOD not below the next one;"})
